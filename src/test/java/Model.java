@@ -317,6 +317,10 @@ final class Model {
         return bounds == null ? NONE : 100 + bounds[one][other];
     }
 
+    int[][] boundsAhead(int step) {
+        return bounds(shapes[step]);
+    }
+
     int points(int step) {
         return place(step) ? count(shapes[step]) : UNKNOWN;
     }
