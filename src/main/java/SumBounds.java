@@ -61,7 +61,7 @@ public final class SumBounds {
         seen.size = 0;
         imageKept = false;
         readings++;
-        stepsChanged();
+        runAgain();
         return steps.size;
     }
 
@@ -136,7 +136,7 @@ public final class SumBounds {
         int second = hasSecond(kind) ? other : NONE;
         int number = hasNumber(kind) ? by : 0;
         steps.insert(place, kind, one, second, number);
-        stepsChanged();
+        runAgain();
         return steps.size;
     }
 
@@ -144,7 +144,7 @@ public final class SumBounds {
         if (!isStep(step)) return UNKNOWN;
         if (steps.size == 1 || steps.isAllOfALoop(step)) return STATE;
         steps.remove(step);
-        stepsChanged();
+        runAgain();
         return steps.size;
     }
 
@@ -153,7 +153,7 @@ public final class SumBounds {
         if (!isBy(by)) return OUTSIDE;
         if (!hasNumber(steps.kinds[step])) return STATE;
         steps.numbers[step] = by;
-        stepsChanged();
+        runAgain();
         return run.pointsAhead(steps.size);
     }
 
@@ -215,7 +215,7 @@ public final class SumBounds {
         if (!imageKept) return STATE;
         steps.copy(imageSteps);
         seen.copy(imageSeen);
-        stepsChanged();
+        runAgain();
         return steps.size;
     }
 
@@ -265,9 +265,16 @@ public final class SumBounds {
         return h;
     }
 
-    private void stepsChanged() {
+    private void runAgain() {
         racks.clear();
-        run.over(steps);
+        run.begin();
+        for (int i = 0; i < steps.size; i++) {
+            if (steps.kinds[i] == LOOP) {
+                run.goRound(steps, steps.firsts[i], i);
+            } else {
+                run.doStep(steps, i);
+            }
+        }
     }
 
     private boolean isStep(int step) {
@@ -610,18 +617,11 @@ public final class SumBounds {
             }
         }
 
-        void test(int one, int other, int most) {
-            limit(one, other, most);
-            close();
-        }
-
+        /**
+         * Leaves the bounds open: close() is due. What the other numbers owe to this one stays with
+         * them, as the bounds were closed.
+         */
         void lose(int number) {
-            open(number);
-            close();
-        }
-
-        /** What the other numbers owe to this one stays with them, as the bounds were closed. */
-        private void open(int number) {
             int up = 2 * number;
             for (int signed = up; signed <= up + 1; signed++) {
                 for (int other = 0; other < SIGNED; other++) {
@@ -630,32 +630,31 @@ public final class SumBounds {
             }
         }
 
+        /** Leaves the bounds open: close() is due. */
         void assign(int number, int signed, int by) {
             int up = 2 * number;
             if (signed == up + 1) turn(number);
             if (signed / 2 == number) {
                 shift(number, by);
             } else {
-                open(number);
+                lose(number);
                 limit(up, signed ^ 1, by);
                 limit(up + 1, signed, -by);
             }
-            close();
         }
 
         private void turn(int number) {
             int up = 2 * number;
             int down = up + 1;
-            swapBounds(up, up, down, down);
+            int greatest = boundOf(up, up);
+            setBound(up, up, boundOf(down, down));
+            setBound(down, down, greatest);
             for (int other = 0; other < SIGNED; other++) {
-                if (other / 2 != number) swapBounds(up, other, down, other);
+                if (other / 2 == number) continue;
+                int above = boundOf(up, other);
+                setBound(up, other, boundOf(down, other));
+                setBound(down, other, above);
             }
-        }
-
-        private void swapBounds(int one, int other, int third, int fourth) {
-            int kept = boundOf(one, other);
-            setBound(one, other, boundOf(third, fourth));
-            setBound(third, fourth, kept);
         }
 
         private void shift(int number, int by) {
@@ -753,56 +752,46 @@ public final class SumBounds {
             for (int i = 0; i <= MOST_STEPS; i++) ahead[i] = new Shape();
         }
 
-        void over(Steps steps) {
+        void begin() {
             rounds = 0;
             Arrays.fill(counted, NONE);
             ahead[0].fill();
-            for (int i = 0; i < steps.size; i++) {
-                if (steps.kinds[i] == LOOP) {
-                    goRound(steps, steps.firsts[i], i);
-                } else {
-                    doStep(steps, i);
-                }
-            }
         }
 
-        private void doStep(Steps steps, int step) {
+        void doStep(Steps steps, int step) {
             Shape shape = ahead[step + 1];
             shape.copy(ahead[step]);
             if (shape.empty) return;
             int one = steps.firsts[step];
             switch (steps.kinds[step]) {
-                case TEST: shape.test(one, steps.seconds[step], steps.numbers[step]); break;
+                case TEST: shape.limit(one, steps.seconds[step], steps.numbers[step]); break;
                 case SET: shape.assign(one, steps.seconds[step], steps.numbers[step]); break;
                 case LOSE: shape.lose(one); break;
                 case MOVE: shape.assign(one, 2 * one, steps.numbers[step]); break;
                 default: break;
             }
+            shape.close();
         }
 
-        private void doSteps(Steps steps, int from, int to) {
-            for (int i = from; i < to; i++) doStep(steps, i);
-        }
-
-        private void goRound(Steps steps, int start, int loop) {
-            Shape begin = ahead[start];
+        void goRound(Steps steps, int start, int loop) {
+            Shape top = ahead[start];
             Shape back = ahead[loop];
-            first.copy(begin);
-            raw.copy(begin);
+            first.copy(top);
+            raw.copy(top);
             for (int i = 0; i < MOST_ROUNDS; i++) {
-                doSteps(steps, start, loop);
-                next.copy(begin);
+                for (int step = start; step < loop; step++) doStep(steps, step);
+                next.copy(top);
                 next.join(back);
-                if (next.isWithin(begin)) break;
+                if (next.isWithin(top)) break;
                 rounds++;
                 raw.widen(next);
-                begin.copy(raw);
-                begin.close();
+                top.copy(raw);
+                top.close();
             }
-            begin.copy(first);
-            begin.join(back);
-            doSteps(steps, start, loop);
-            ahead[loop + 1].copy(begin);
+            top.copy(first);
+            top.join(back);
+            for (int step = start; step < loop; step++) doStep(steps, step);
+            ahead[loop + 1].copy(top);
         }
 
         int pointsAhead(int step) {
