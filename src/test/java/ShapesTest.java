@@ -12,6 +12,7 @@ public final class ShapesTest {
         points();
         shares();
         comparisons();
+        oneBoundAlone();
         refusals();
         Checks.end();
     }
@@ -175,6 +176,34 @@ public final class ShapesTest {
         }
         SumBounds empty = Checks.of("t01-1,f0");
         Checks.due("two without POINTS", empty.compare(1, 2), 0);
+    }
+
+    /** Shapes that differ in one bound alone are not alike, whichever one it is. */
+    private static void oneBoundAlone() {
+        for (int one = 0; one < 6; one++) {
+            StringBuilder tip = new StringBuilder();
+            for (int other = 0; other < 6; other++) {
+                if (other / 2 != one / 2) tip.append('t').append(one).append(other).append("+3,");
+            }
+            cutAlone(tip + "t" + one + one + "+4", one, one, 104);
+            for (int other = 0; other < 6; other++) {
+                if (other / 2 != one / 2) cutAlone("f0,t" + one + other + "+9", one, other, 109);
+            }
+        }
+    }
+
+    private static void cutAlone(String text, int one, int other, int want) {
+        SumBounds x = Checks.of(text);
+        int last = x.count(0) - 1;
+        for (int i = 0; i < 6; i++) {
+            for (int j = 0; j < 6; j++) {
+                boolean cut = i == one && j == other || i == other && j == one;
+                bound(x, last + 1, i, j, cut ? want : x.bound(last, i, j));
+            }
+        }
+        Checks.due(text + ": compare", x.compare(last, last + 1), 2);
+        Checks.due(text + ": compare the other way", x.compare(last + 1, last), 1);
+        Checks.due(text + ": IDLE", x.step(last, 6), 0);
     }
 
     private static void refusals() {
