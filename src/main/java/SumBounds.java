@@ -253,7 +253,9 @@ public final class SumBounds {
         return h;
     }
 
+    /** Without a program there is no last step, so that nothing lies behind it either. */
     private long digestOfShapes(long start) {
+        if (steps.size == 0) return start;
         long h = start;
         for (int i = 0; i <= steps.size; i++) {
             h = 31 * h + points(i);

@@ -4,6 +4,7 @@ public final class AllTest {
         images();
         counts();
         digests();
+        digestsWithoutProgram();
         anyArguments();
         Checks.end();
     }
@@ -68,11 +69,27 @@ public final class AllTest {
             'w', ',', 'f',
             3, 1, 1, 0, 1, 4913, 1, 1, 3, 1};
         Checks.due("digest()", x.digest(), fold(told));
+    }
+
+    /** There is no STEP and no last one then, so nothing of points(), bound(), share() goes in. */
+    private static void digestsWithoutProgram() {
+        SumBounds x = new SumBounds();
         long[] ofNew = {
-            -101, -101, -101, -101, -101,
             -1, -1, -1, -1, -1, -1, -1, -1, -1, -1, -1, -1, -1, -1, -1,
             0, 0, 0, 0, 0, 0, 0, 0, 0, 0};
-        Checks.due("digest() of a new object", new SumBounds().digest(), fold(ofNew));
+        Checks.due("digest() of a new object", x.digest(), fold(ofNew));
+        Checks.due("the same as a number", x.digest(), 599906015138694744L);
+        Checks.write(x, "f3");
+        x.program();
+        x.put(0, 2, 0, 0, 0);
+        x.see(0, 0, true);
+        long[] withLetters = {
+            -1, -1, -1, -1, -1, -1, -1, -1, -1, -1, -1, -1, -1, -1, -1,
+            'f', '3',
+            0, 0, 0, 0, 0, 0, 0, 0, 2, 0};
+        Checks.due("digest() with letters alone", x.digest(), fold(withLetters));
+        x.blank();
+        Checks.due("digest() behind blank()", x.digest(), fold(ofNew));
     }
 
     private static long bits(int points) {

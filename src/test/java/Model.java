@@ -492,7 +492,8 @@ final class Model {
     long digest() {
         List<Long> told = new ArrayList<>();
         for (int i = 0; i < steps.size(); i++) for (int what = 0; what <= 8; what++) told.add((long) step(i, what));
-        for (int i = 0; i <= steps.size(); i++) {
+        int shapes = steps.isEmpty() ? 0 : steps.size() + 1;
+        for (int i = 0; i < shapes; i++) {
             told.addAll(List.of((long) points(i), (long) bound(i, 0, 2), (long) bound(i, 1, 4)));
             told.addAll(List.of((long) bound(i, 5, 5), share(i)));
         }
