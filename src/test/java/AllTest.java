@@ -102,7 +102,10 @@ public final class AllTest {
         return h;
     }
 
-    /** The machine itself must never throw: this test would end with its exception. */
+    /**
+     * The machine itself must never throw: this test would end with its exception. These are far more
+     * than 512 calls on an object, whose answers are free then; but no call may throw in any state.
+     */
     private static void anyArguments() {
         int[] any = {Integer.MIN_VALUE, -10, -9, -1, 0, 1, 2, 3, 4, 5, 6, 7, 9, 10, 36, Integer.MAX_VALUE};
         SumBounds[] objects = {new SumBounds(), Checks.of("f0"), Checks.of("t00+0,a0+1,w1,s12-9,t01-1,w3")};

@@ -4,14 +4,24 @@ import java.util.function.LongSupplier;
 final class Checks {
     private static int made = 0;
     private static int wrong = 0;
+    private static String sentence = "";
 
     private Checks() { }
+
+    /** What is looked at from here on is for a sentence of the document: it is told with a failure. */
+    static void under(String quoted) {
+        sentence = "[" + quoted + "] ";
+    }
+
+    static int made() {
+        return made;
+    }
 
     static void due(String call, long got, long want) {
         made++;
         if (got == want) return;
         wrong++;
-        if (wrong <= 40) System.out.println(call + " answered " + got + ", due is " + want);
+        if (wrong <= 40) System.out.println(sentence + call + " answered " + got + ", due is " + want);
     }
 
     /** As due, for a call that must change nothing: the digest is the same behind it. */

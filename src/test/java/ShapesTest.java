@@ -128,10 +128,12 @@ public final class ShapesTest {
     }
 
     private static void points() {
-        SumBounds x = Checks.of("t02+0,t24-3");
+        String program = "t02+0,t24-3";
         int[] points = new int[3];
         for (int x0 = -8; x0 <= 8; x0++) {
             for (int x1 = -8; x1 <= 8; x1++) {
+                // An object answers 512 calls: all points are more than one can be asked for.
+                SumBounds x = Checks.of(program);
                 for (int x2 = -8; x2 <= 8; x2++) {
                     int in1 = x0 + x1 <= 0 ? 1 : 0;
                     int in2 = in1 == 1 && x1 + x2 <= -3 ? 1 : 0;
@@ -145,7 +147,8 @@ public final class ShapesTest {
                 }
             }
         }
-        for (int i = 0; i < 3; i++) Checks.due("points(" + i + ")", x.points(i), points[i]);
+        SumBounds counted = Checks.of(program);
+        for (int i = 0; i < 3; i++) Checks.due("points(" + i + ")", counted.points(i), points[i]);
     }
 
     private static void shares() {
